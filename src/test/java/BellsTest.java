@@ -162,5 +162,9 @@ public final class BellsTest {
         due("told(59)", x.told(59), 9);
         due("told(25)", x.told(25), 1);
         due("told(7)", x.told(7), 32);
+        Check.write(x, "F%");
+        due("done", x.done(), 1);
+        due("told(59), had", x.told(59), 0);
+        due("told(25), had", x.told(25), 10);
     }
 }
