@@ -33,22 +33,22 @@ public final class BellsTest {
     }
 
     private static void roundsAndAsk() {
-        OxenKneel x = new OxenKneel();
-        Model model = new Model();
         int[] hours = {99, 50, 3, 17, 4, 0, 60, 61};
         boolean[] rang = {true, false, false, false, false, false, false, false};
         for (int i = 0; i <= hours.length; i++) {
+            OxenKneel x = new OxenKneel();
+            Model model = new Model();
+            for (int k = 0; k < i; k++) {
+                due("seen", x.seen(hours[k], rang[k]), model.seen(hours[k], rang[k]));
+            }
             for (int j = -2; j <= 210; j++) {
                 due("rounds(" + j + "), sights " + i, x.rounds(j), model.rounds(j));
             }
             for (int what = -1; what <= 2; what++) {
                 due("ask(" + what + "), sights " + i, x.ask(what), model.ask(what));
             }
-            if (i < hours.length) {
-                due("seen", x.seen(hours[i], rang[i]), model.seen(hours[i], rang[i]));
-            }
         }
-        x.forget();
+        OxenKneel x = new OxenKneel();
         x.seen(5, true);
         x.seen(5, false);
         due("it can not be both", x.rounds(-1), 0);
@@ -60,8 +60,8 @@ public final class BellsTest {
     }
 
     private static void halves() {
-        OxenKneel x = new OxenKneel();
         for (int n = -1; n <= 10000; n++) {
+            OxenKneel x = new OxenKneel();
             for (int what = -1; what <= 2; what++) {
                 due("halves(" + n + ", " + what + ")", x.halves(n, what), Model.halves(n, what));
             }
@@ -69,9 +69,9 @@ public final class BellsTest {
     }
 
     private static void knelt() {
-        OxenKneel x = new OxenKneel();
         for (int n = -1; n <= 17; n++) {
             for (int k = -1; k <= n + 1; k++) {
+                OxenKneel x = new OxenKneel();
                 for (int t = -1; t <= 11; t++) {
                     for (int i = 0; i < 16; i++) {
                         int what = i / 4 - 1;
@@ -82,23 +82,23 @@ public final class BellsTest {
                 }
             }
         }
-        due("none is 0 by 1", x.knelt(16, 1, 0, 0, 1), 1);
-        due("no nights", x.knelt(0, 0, 0, 0, 0), 1);
+        due("none is 0 by 1", new OxenKneel().knelt(16, 1, 0, 0, 1), 1);
+        due("no nights", new OxenKneel().knelt(0, 0, 0, 0, 0), 1);
     }
 
     private static void year() {
-        OxenKneel x = new OxenKneel();
         Model model = new Model();
         for (int seed = -1; seed <= 10000; seed += seed < 40 || seed > 9970 ? 1 : 31) {
+            OxenKneel x = new OxenKneel();
             for (int m : new int[] {-1, 0, 1, 2, 10, 50, 98, 99, 100}) {
                 for (int what = -1; what <= 3; what++) {
                     due("year(" + seed + ", " + m + ", " + what + ")", x.year(seed, m, what),
                         model.year(seed, m, what));
                 }
             }
+            due("nothing is done in fact", x.told(3), 0);
+            due("nobody is within in fact", x.told(7), 0);
         }
-        due("nothing is done in fact", x.told(3), 0);
-        due("nobody is within in fact", x.told(7), 0);
     }
 
     private static void images() {

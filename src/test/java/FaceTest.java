@@ -42,7 +42,8 @@ public final class FaceTest {
 
     private static void members() {
         Class<?> face = OxenKneel.class;
-        CHECK.holds("public and final", Modifier.isPublic(face.getModifiers()) && Modifier.isFinal(face.getModifiers()));
+        CHECK.holds("public", Modifier.isPublic(face.getModifiers()));
+        CHECK.holds("final", Modifier.isFinal(face.getModifiers()));
         TreeSet<String> methods = new TreeSet<>();
         TreeSet<String> names = new TreeSet<>();
         for (Method method : face.getDeclaredMethods()) {
@@ -93,7 +94,7 @@ public final class FaceTest {
         CHECK.holds("signs 1 to 127 alone", text.chars().allMatch(sign -> sign > 0 && sign < 128));
     }
 
-    /** No call makes an object: all rows are made with the object itself. */
+    /** No call makes an object: all rows are made with the object itself. Its calls stay below 512. */
     private static void room() {
         com.sun.management.ThreadMXBean bean =
             (com.sun.management.ThreadMXBean) java.lang.management.ManagementFactory.getThreadMXBean();
@@ -101,11 +102,11 @@ public final class FaceTest {
         eachCallOnce(x);
         bean.getCurrentThreadAllocatedBytes();
         long ahead = bean.getCurrentThreadAllocatedBytes();
-        for (int i = 0; i < 100; i++) {
+        for (int i = 0; i < 15; i++) {
             eachCallOnce(x);
         }
         long made = bean.getCurrentThreadAllocatedBytes() - ahead;
-        CHECK.holds("calls make nothing, but " + made + " bytes were made", made < 4096);
+        CHECK.holds("calls make nothing, but " + made + " bytes were made", made < 512);
     }
 
     private static void eachCallOnce(OxenKneel x) {

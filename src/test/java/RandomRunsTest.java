@@ -1,9 +1,10 @@
 import java.util.Random;
 
-/** Every promise at once: runs of 512 calls by fixed seeds, each answer set against the model's. */
+/** Every promise at once: runs of up to 512 calls by fixed seeds, each answer set against the model's. */
 public final class RandomRunsTest {
     private static final int RUNS = 1500;
-    private static final int CALLS = 512;
+    /** Beside the 60 that tell all at the end, and the few by which the last step may go too far. */
+    private static final int CALLS = 512 - 60 - 4;
     private static final String[] TEXTS = {"k", "k", "h1", "d1", "(", "(", "(", ")", ">", ">", "<", "$", "%", "d9"};
 
     private final Check check = new Check();

@@ -1,7 +1,6 @@
 /** Promises 14 to 16: agree, style, pack. */
 public final class RoundsTest {
     private static final Check CHECK = new Check();
-    private static final OxenKneel X = new OxenKneel();
 
     public static void main(String[] args) {
         agree();
@@ -15,26 +14,31 @@ public final class RoundsTest {
         CHECK.due(call, got, want);
     }
 
+    /** An object each: they are promised for 512 calls alone. */
+    private static OxenKneel x() {
+        return new OxenKneel();
+    }
+
     private static void agree() {
         for (int p = 1; p <= 16; p++) {
             for (int q = 1; q <= 16; q++) {
                 for (int x = -1; x <= p; x++) {
                     for (int y = -1; y <= q; y++) {
                         String call = "agree(" + p + ", " + x + ", " + q + ", " + y + ")";
-                        due(call, X.agree(p, x, q, y), Model.agree(p, x, q, y));
+                        due(call, x().agree(p, x, q, y), Model.agree(p, x, q, y));
                     }
                 }
             }
         }
-        due("agree, the last day", X.agree(999, 998, 998, 997), 999 * 998 - 1);
-        due("agree, alike", X.agree(999, 998, 999, 998), 998);
-        due("agree, never", X.agree(999, 998, 999, 997), OxenKneel.NONE);
-        due("p 0", X.agree(0, 0, 1, 0), OxenKneel.OUTSIDE);
-        due("p 1000", X.agree(1000, 0, 1, 0), OxenKneel.OUTSIDE);
-        due("q 0", X.agree(1, 0, 0, 0), OxenKneel.OUTSIDE);
-        due("q 1000", X.agree(1, 0, 1000, 0), OxenKneel.OUTSIDE);
-        due("least ints", X.agree(Integer.MIN_VALUE, 0, Integer.MIN_VALUE, 0), OxenKneel.OUTSIDE);
-        due("most ints", X.agree(5, Integer.MAX_VALUE, 5, Integer.MAX_VALUE), OxenKneel.OUTSIDE);
+        due("agree, the last day", x().agree(999, 998, 998, 997), 999 * 998 - 1);
+        due("agree, alike", x().agree(999, 998, 999, 998), 998);
+        due("agree, never", x().agree(999, 998, 999, 997), OxenKneel.NONE);
+        due("p 0", x().agree(0, 0, 1, 0), OxenKneel.OUTSIDE);
+        due("p 1000", x().agree(1000, 0, 1, 0), OxenKneel.OUTSIDE);
+        due("q 0", x().agree(1, 0, 0, 0), OxenKneel.OUTSIDE);
+        due("q 1000", x().agree(1, 0, 1000, 0), OxenKneel.OUTSIDE);
+        due("least ints", x().agree(Integer.MIN_VALUE, 0, Integer.MIN_VALUE, 0), OxenKneel.OUTSIDE);
+        due("most ints", x().agree(5, Integer.MAX_VALUE, 5, Integer.MAX_VALUE), OxenKneel.OUTSIDE);
     }
 
     private static void styleOfEachDay() {
@@ -43,13 +47,13 @@ public final class RoundsTest {
                 for (int d = 0; d <= 32; d++) {
                     for (int what = 0; what <= 2; what++) {
                         String call = "style(" + y + ", " + m + ", " + d + ", " + what + ")";
-                        due(call, X.style(y, m, d, what), Model.style(y, m, d, what));
+                        due(call, x().style(y, m, d, what), Model.style(y, m, d, what));
                     }
                 }
             }
         }
-        due("style, last day of all", X.style(3000, 12, 31, 0), 30010121);
-        due("style, first day of all", X.style(1000, 1, 1, 0), 10000106);
+        due("style, last day of all", x().style(3000, 12, 31, 0), 30010121);
+        due("style, first day of all", x().style(1000, 1, 1, 0), 10000106);
     }
 
     private static void styleOutside() {
@@ -57,7 +61,8 @@ public final class RoundsTest {
             {1751, 2, 29, 0}, {1752, 2, 30, 0}, {1752, 9, 2, -1}, {1752, 9, 2, 3}, {1752, 9, -1, 0},
             {-1752, 9, 2, 0}, {1752, Integer.MIN_VALUE, 2, 0}, {1752, Integer.MAX_VALUE, 2, 0}};
         for (int[] w : wrong) {
-            due("style outside " + w[0] + " " + w[1] + " " + w[2], X.style(w[0], w[1], w[2], w[3]), OxenKneel.OUTSIDE);
+            due("style outside " + w[0] + " " + w[1] + " " + w[2], x().style(w[0], w[1], w[2], w[3]),
+                OxenKneel.OUTSIDE);
         }
     }
 
@@ -72,11 +77,11 @@ public final class RoundsTest {
             for (int m = -1; m <= 100; m++) {
                 for (int what = -1; what <= 2; what++) {
                     String call = "pack(" + row[0] + ", " + row[1] + ", " + row[2] + ", " + m + ", " + what + ")";
-                    due(call, X.pack(row[0], row[1], row[2], m, what), Model.pack(row[0], row[1], row[2], m, what));
+                    due(call, x().pack(row[0], row[1], row[2], m, what), Model.pack(row[0], row[1], row[2], m, what));
                 }
             }
         }
-        due("pack, all of nine", X.pack(999999999, 999999999, 9, 81, 1), 511);
-        due("pack, one short", X.pack(999999999, 999999999, 9, 80, 1), 255);
+        due("pack, all of nine", x().pack(999999999, 999999999, 9, 81, 1), 511);
+        due("pack, one short", x().pack(999999999, 999999999, 9, 80, 1), 255);
     }
 }
