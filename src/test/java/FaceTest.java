@@ -5,6 +5,9 @@ import java.lang.reflect.Method;
 import java.lang.reflect.Modifier;
 import java.nio.file.Files;
 import java.nio.file.Path;
+import java.util.Arrays;
+import java.util.Comparator;
+import java.util.Random;
 import java.util.TreeSet;
 
 /** The public face, and such rules of ../shared/LANGUAGE.md as can be seen from outside or by a word. */
@@ -21,12 +24,19 @@ public final class FaceTest {
     private static final String[] FORBIDDEN = {"import ", "package ", "->", "::", "Exact", "catch", "try ", "throw",
         "finally", "synchronized", "assert", "static {", "System.out", "Random", "Thread"};
 
+    /** Numbers at which a row, a divisor or a sum might give way, and such as bring an object on. */
+    private static final int[] NUMBERS = {Integer.MIN_VALUE, Integer.MIN_VALUE + 1, -365, -31, -7, -2, -1, 0, 0, 0, 1, 1,
+        2, 3, 5, 6, 7, 9, 10, 11, 16, 17, 29, 30, 31, 59, 60, 99, 100, 358, 364, 365, 998, 999, 1000, 1752, 3000, 9999,
+        10000, 111111111, 999999999, Integer.MAX_VALUE - 1, Integer.MAX_VALUE};
+    private static final String SIGNS = "AAABF(((()>><$%hdk1199!";
+
     public static void main(String[] args) throws IOException {
         constants();
         members();
         nested();
         source();
         room();
+        nothingThrows();
         CHECK.finish();
     }
 
@@ -139,5 +149,45 @@ public final class FaceTest {
         x.say('A');
         x.say(')');
         x.done();
+    }
+
+    /** Whatever the numbers and however it stands; behind 512 calls answers are free, but none throws there either. */
+    private static void nothingThrows() {
+        Random random = new Random(11);
+        Method[] methods = publicMethods();
+        for (int run = 0; run < 300; run++) {
+            OxenKneel x = new OxenKneel();
+            for (int call = 0; call < 600; call++) {
+                callsWithoutThrowing(x, methods[random.nextInt(methods.length)], random);
+                if (random.nextInt(4) == 0) {
+                    x.clock(x.told(5), 0, 0);
+                }
+                x.say(SIGNS.charAt(random.nextInt(SIGNS.length())));
+                if (x.fault() == x.told(0) - 1) {
+                    x.wipe();
+                }
+            }
+        }
+    }
+
+    private static Method[] publicMethods() {
+        Method[] methods = OxenKneel.class.getDeclaredMethods();
+        return Arrays.stream(methods).filter(method -> Modifier.isPublic(method.getModifiers()))
+            .sorted(Comparator.comparing(Method::getName)).toArray(Method[]::new);
+    }
+
+    private static void callsWithoutThrowing(OxenKneel x, Method method, Random random) {
+        Object[] given = new Object[method.getParameterCount()];
+        for (int i = 0; i < given.length; i++) {
+            boolean isNumber = method.getParameterTypes()[i] == int.class;
+            given[i] = isNumber ? (Object) NUMBERS[random.nextInt(NUMBERS.length)] : (Object) random.nextBoolean();
+        }
+        boolean answers = true;
+        try {
+            method.invoke(x, given);
+        } catch (ReflectiveOperationException thrown) {
+            answers = false;
+        }
+        CHECK.holds(method.getName() + Arrays.toString(given) + " answers", answers);
     }
 }
